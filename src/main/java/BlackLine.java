@@ -493,8 +493,9 @@ public final class BlackLine {
         }
 
         void setStart(int box, int field, int value) {
-            if (hasBox(box) && World.isField(field)) {
-                starts[box * World.FIELDS + field] = value;
+            int at = box * World.FIELDS + field;
+            if (hasBox(box) && at >= 0 && at < starts.length) {
+                starts[at] = value;
             }
         }
 
@@ -509,9 +510,11 @@ public final class BlackLine {
     /** The text's words, numbers and marks one by one, and the first FAULT along it. */
     private static final class Tokens {
         static final int END = 0;
-        static final int WORD = 1;
-        static final int NUMBER = 2;
-        static final int MARK = 3;
+        static final int NAME = 1;
+        static final int OWN = 2;
+        static final int NUMBER = 3;
+        static final int MARK = 4;
+        private static final int BAD = 5;
 
         static final int FLOOR = 0;
         static final int BY = 1;
@@ -543,19 +546,20 @@ public final class BlackLine {
         private static final String OWN_TEXT = "floor by grey box at way eyes apart ahead bias steers goes power lamp cat left right mid lost step turned if or and not all min max ";
         private static final int DIGITS = 4;
 
-        final Tape tape;
+        private final Tape tape;
         private final int[] ownNames = new int[OWN_WORDS];
+        private final int[] kinds = new int[Tape.MOST];
+        private final int[] starts = new int[Tape.MOST];
+        private final int[] values = new int[Tape.MOST];
+        private int count;
+        private int index;
+        /** Of the token at hand, which no rule has taken yet. */
         int kind;
         int start;
-        /** The number, or the mark's byte. */
+        /** A NAME's letters as a Plan holds them, an OWN WORD's number, a NUMBER, a mark's byte. */
         int value;
-        /** The word's letters, as a Plan holds them. */
-        int name;
-        /** Which OWN WORD it is; NONE for others. */
-        int own;
         int faultKind;
         int faultPlace;
-        private int place;
 
         Tokens(Tape tape) {
             this.tape = tape;
@@ -574,60 +578,139 @@ public final class BlackLine {
         }
 
         void open() {
+            count = 0;
+            boolean good = true;
+            for (int k = 0; k < tape.length && good; k++) {
+                good = scan(k);
+            }
+            for (int k = 0; k < count; k++) {
+                markOwnWord(k);
+            }
             faultKind = 0;
             faultPlace = NONE;
-            place = 0;
+            index = -1;
             next();
         }
 
-        /** Behind a FAULT only the text's end comes, so that every rule that is open ends. */
-        void refuseAt(int fault, int where) {
+        /** False at a sign behind which no token is of use: a rule that comes to it ends there. */
+        private boolean scan(int place) {
+            int sign = tape.at(place);
+            int before = tape.at(place - 1);
+            if (isBlank(sign)) {
+                return true;
+            }
+            if (isLetter(sign)) {
+                return isLetter(before) ? addLetter(place, sign) : startSolid(NAME, place, before)
+                        && addLetter(place, sign);
+            }
+            if (isDigit(sign)) {
+                return isDigit(before) ? addDigit(place, sign) : startSolid(NUMBER, place, before)
+                        && addDigit(place, sign);
+            }
+            add(MARK, place, sign);
+            return true;
+        }
+
+        /** A word or a number, which needs a blank behind another one. */
+        private boolean startSolid(int newKind, int place, int before) {
+            boolean joined = isLetter(before) || isDigit(before);
+            add(joined ? BAD : newKind, place, joined ? place : 0);
+            return !joined;
+        }
+
+        private void add(int newKind, int place, int newValue) {
+            if (count >= 0 && count < kinds.length) {
+                kinds[count] = newKind;
+                starts[count] = place;
+                values[count] = newValue;
+                count++;
+            }
+        }
+
+        private boolean addLetter(int place, int sign) {
+            int last = count - 1;
+            if (last < 0 || last >= kinds.length) {
+                return false;
+            }
+            int letters = place - starts[last];
+            boolean fits = letters < Plan.LETTERS;
+            kinds[last] = fits ? NAME : BAD;
+            values[last] = fits ? values[last] | (sign - 'a' + 1) << Plan.shiftOf(letters) : place;
+            return fits;
+        }
+
+        private boolean addDigit(int place, int sign) {
+            int last = count - 1;
+            if (last < 0 || last >= kinds.length) {
+                return false;
+            }
+            boolean fits = place - starts[last] < DIGITS;
+            kinds[last] = fits ? NUMBER : BAD;
+            values[last] = fits ? 10 * values[last] + sign - '0' : place;
+            return fits;
+        }
+
+        private void markOwnWord(int token) {
+            if (token < 0 || token >= kinds.length || kinds[token] != NAME) {
+                return;
+            }
+            for (int k = 0; k < OWN_WORDS; k++) {
+                if (kinds[token] == NAME && ownNames[k] == values[token]) {
+                    kinds[token] = OWN;
+                    values[token] = k;
+                }
+            }
+        }
+
+        private static boolean isBlank(int sign) {
+            return sign == 10 || sign == 32;
+        }
+
+        private static boolean isLetter(int sign) {
+            return sign >= 'a' && sign <= 'z';
+        }
+
+        private static boolean isDigit(int sign) {
+            return sign >= '0' && sign <= '9';
+        }
+
+        /** A FAULT at the token at hand; behind it only the end comes, so that all open rules end. */
+        void refuseHere(int fault) {
             if (faultKind == 0) {
                 faultKind = fault;
-                faultPlace = where;
+                faultPlace = start;
             }
             kind = END;
             value = 0;
-            own = NONE;
         }
 
-        void refuseHere(int fault) {
-            refuseAt(fault, start);
-        }
-
-        /** To be called only when all is known of the token before: its FAULTS come first. */
+        /** To be called only when all is known of the token at hand: its FAULTS come first. */
         void next() {
-            own = NONE;
-            value = 0;
-            kind = END;
             if (faultKind != 0) {
                 return;
             }
-            skipBlanks();
-            start = place;
-            int sign = tape.at(place);
-            if (sign == NONE) {
+            index++;
+            if (index < 0 || index >= count || index >= kinds.length) {
+                kind = END;
+                start = tape.length;
+                value = 0;
                 return;
             }
-            boolean joined = isLetter(tape.at(place - 1)) || isDigit(tape.at(place - 1));
-            if (joined && (isLetter(sign) || isDigit(sign))) {
+            kind = kinds[index];
+            start = starts[index];
+            value = values[index];
+            if (kind == BAD) {
+                start = value;
                 refuseHere(1);
-            } else if (isLetter(sign)) {
-                readWord();
-            } else if (isDigit(sign)) {
-                readNumber();
-            } else {
-                kind = MARK;
-                value = sign;
-                place++;
             }
         }
 
-        /** What stands behind the last STATEMENT that may be is not even looked at as a token. */
+        /** Whatever stands behind the token at hand is a STATEMENT too many, a bad token too. */
         void refuseMore() {
-            skipBlanks();
-            if (place < tape.length) {
-                refuseAt(6, place);
+            int more = index + 1;
+            if (more >= 0 && more < count && more < starts.length) {
+                start = starts[more];
+                refuseHere(6);
             }
         }
 
@@ -636,7 +719,7 @@ public final class BlackLine {
         }
 
         boolean isWord(int word) {
-            return kind == WORD && own == word;
+            return kind == OWN && value == word;
         }
 
         void takeMark(char sign) {
@@ -662,58 +745,6 @@ public final class BlackLine {
             int number = value;
             next();
             return number;
-        }
-
-        private void skipBlanks() {
-            while (place < tape.length && isBlank(tape.at(place))) {
-                place++;
-            }
-        }
-
-        private void readWord() {
-            kind = WORD;
-            name = 0;
-            int letters = 0;
-            while (place < tape.length && isLetter(tape.at(place))) {
-                if (letters == Plan.LETTERS) {
-                    refuseAt(1, place);
-                    return;
-                }
-                name |= (tape.at(place) - 'a' + 1) << Plan.shiftOf(letters);
-                letters++;
-                place++;
-            }
-            for (int k = 0; k < OWN_WORDS; k++) {
-                if (ownNames[k] == name) {
-                    own = k;
-                }
-            }
-        }
-
-        private void readNumber() {
-            kind = NUMBER;
-            int digits = 0;
-            while (place < tape.length && isDigit(tape.at(place))) {
-                if (digits == DIGITS) {
-                    refuseAt(1, place);
-                    return;
-                }
-                value = 10 * value + tape.at(place) - '0';
-                digits++;
-                place++;
-            }
-        }
-
-        private static boolean isBlank(int sign) {
-            return sign == 10 || sign == 32;
-        }
-
-        private static boolean isLetter(int sign) {
-            return sign >= 'a' && sign <= 'z';
-        }
-
-        private static boolean isDigit(int sign) {
-            return sign >= '0' && sign <= '9';
         }
     }
 
@@ -749,7 +780,7 @@ public final class BlackLine {
         }
 
         private void readStatement(boolean first) {
-            int word = tokens.kind == Tokens.WORD ? tokens.own : NONE;
+            int word = tokens.kind == Tokens.OWN ? tokens.value : NONE;
             if (first != (word == Tokens.FLOOR)) {
                 tokens.refuseHere(1);
                 return;
@@ -772,10 +803,10 @@ public final class BlackLine {
                     readBias();
                     break;
                 case Tokens.STEERS:
-                    readSteers();
+                    formula.readSteers(plan);
                     break;
                 case Tokens.GOES:
-                    readGoes();
+                    formula.readGoes(plan);
                     break;
                 default:
                     readSetting(word);
@@ -835,20 +866,6 @@ public final class BlackLine {
             plan.setStart(box, World.BIAS, tokens.takeNumber(0, World.MOST_BIAS));
         }
 
-        private void readSteers() {
-            tokens.next();
-            plan.steersFrom = plan.codeLength;
-            formula.readSum(plan);
-            plan.steersTo = plan.codeLength;
-        }
-
-        private void readGoes() {
-            tokens.next();
-            plan.goesFrom = plan.codeLength;
-            formula.readTest(plan);
-            plan.goesTo = plan.codeLength;
-        }
-
         private void readSetting(int word) {
             if (word == Tokens.POWER) {
                 tokens.next();
@@ -865,25 +882,22 @@ public final class BlackLine {
         }
 
         private int takeNewName() {
-            if (tokens.kind != Tokens.WORD || tokens.own != NONE) {
+            if (tokens.kind != Tokens.NAME) {
                 tokens.refuseHere(1);
-            } else if (plan.boxNamed(tokens.name) != NONE) {
+            } else if (plan.boxNamed(tokens.value) != NONE) {
                 tokens.refuseHere(2);
             }
-            int name = tokens.name;
+            int name = tokens.value;
             tokens.next();
             return name;
         }
 
         private int takeBoxName() {
-            int box = NONE;
-            if (tokens.kind != Tokens.WORD || tokens.own != NONE) {
+            int box = plan.boxNamed(tokens.value);
+            if (tokens.kind != Tokens.NAME) {
                 tokens.refuseHere(1);
-            } else {
-                box = plan.boxNamed(tokens.name);
-                if (box == NONE) {
-                    tokens.refuseHere(3);
-                }
+            } else if (box == NONE) {
+                tokens.refuseHere(3);
             }
             tokens.next();
             return box;
@@ -904,16 +918,22 @@ public final class BlackLine {
             inGoes = false;
         }
 
-        void readSum(Plan target) {
+        void readSteers(Plan target) {
             plan = target;
             inGoes = false;
+            tokens.next();
+            plan.steersFrom = plan.codeLength;
             sum(0);
+            plan.steersTo = plan.codeLength;
         }
 
-        void readTest(Plan target) {
+        void readGoes(Plan target) {
             plan = target;
             inGoes = true;
+            tokens.next();
+            plan.goesFrom = plan.codeLength;
             test(0);
+            plan.goesTo = plan.codeLength;
         }
 
         private void test(int open) {
@@ -1044,10 +1064,7 @@ public final class BlackLine {
         }
 
         private void known() {
-            int what = NONE;
-            if (tokens.kind == Tokens.WORD) {
-                what = knownOf(tokens.own);
-            }
+            int what = tokens.kind == Tokens.OWN ? knownOf(tokens.value) : NONE;
             boolean onlyInGoes = what == Machine.KNOWN_TURNED || what == Machine.KNOWN_POWER;
             if (what == NONE || (onlyInGoes && !inGoes)) {
                 tokens.refuseHere(1);
@@ -1231,10 +1248,6 @@ public final class BlackLine {
             blockedCount = 0;
         }
 
-        static boolean isField(int field) {
-            return field >= 0 && field < FIELDS;
-        }
-
         static int columnStep(int way) {
             if (way == 1) {
                 return 1;
@@ -1294,12 +1307,14 @@ public final class BlackLine {
         }
 
         int of(int box, int field) {
-            return plan.hasBox(box) && isField(field) ? row[box * FIELDS + field] : NONE;
+            int at = box * FIELDS + field;
+            return at >= 0 && at < SIZE ? row[at] : NONE;
         }
 
         void set(int box, int field, int value) {
-            if (plan.hasBox(box) && isField(field)) {
-                row[box * FIELDS + field] = value;
+            int at = box * FIELDS + field;
+            if (at >= 0 && at < SIZE) {
+                row[at] = value;
             }
         }
 
