@@ -1728,7 +1728,7 @@ public final class BlackLine {
             for (int one = 0; one < BIASES && steps >= 0 && steps <= MOST_STEPS; one++) {
                 int alike = 0;
                 for (int other = 0; other < BIASES; other++) {
-                    boolean left = (bits >> one & bits >> other & 1) == 1;
+                    boolean left = ((bits >> one) & (bits >> other) & 1) == 1;
                     alike += left && places[one][steps] == places[other][steps] ? 1 : 0;
                 }
                 most = Math.max(most, alike);
@@ -1790,8 +1790,9 @@ public final class BlackLine {
         void keepStep(World now) {
             for (int k = 0; k < now.plan.boxes && k < now.went.length; k++) {
                 if (now.went[k]) {
-                    int cell = now.of(k, World.ROW) << 4 | now.of(k, World.COLUMN);
-                    keptRows[Math.floorMod(keptTotal, MOST_KEPT)] = now.step - 1 << 11 | k << 8 | cell;
+                    int place = (now.of(k, World.ROW) << 4) | now.of(k, World.COLUMN);
+                    int packed = ((now.step - 1) << 11) | (k << 8) | place;
+                    keptRows[Math.floorMod(keptTotal, MOST_KEPT)] = packed;
                     keptTotal++;
                 }
             }
@@ -1806,11 +1807,11 @@ public final class BlackLine {
                 case 0:
                     return packed >> 11;
                 case 1:
-                    return packed >> 8 & 7;
+                    return (packed >> 8) & 7;
                 case 2:
                     return packed & 15;
                 case 3:
-                    return packed >> 4 & 15;
+                    return (packed >> 4) & 15;
                 default:
                     return NONE;
             }

@@ -34,7 +34,10 @@ final class Kitchens {
         if (kind < 5) {
             return good();
         }
-        return kind < 9 ? slipped(good()) : heap();
+        if (kind < 7) {
+            return slipped(good());
+        }
+        return kind < 9 ? withStatements(good()) : heap();
     }
 
     String good() {
@@ -71,7 +74,7 @@ final class Kitchens {
     private void addGreys(List<String> others, int columns, int rows) {
         int column = random.nextInt(columns);
         int row = random.nextInt(rows);
-        int count = random.nextInt(40);
+        int count = random.nextInt(random.nextBoolean() ? 40 : 10);
         for (int k = 0; k < count; k++) {
             others.add("grey " + column + gap() + row + " " + (random.nextInt(3) == 0 ? random.nextInt(10) : 9));
             if (random.nextBoolean()) {
@@ -192,6 +195,58 @@ final class Kitchens {
             }
         }
         return s.toString();
+    }
+
+    /** Whole STATEMENTS more, which may be one too many, name what is not there, go too deep. */
+    private String withStatements(String text) {
+        StringBuilder s = new StringBuilder(text.length() < 1400 ? text : "floor 5 by 5;");
+        for (int k = 1 + random.nextInt(random.nextInt(4) == 0 ? 90 : 3); k > 0; k--) {
+            int at = random.nextInt(3) == 0 ? s.lastIndexOf(";", random.nextInt(s.length())) + 1 : s.length();
+            s.insert(at, some() + statement() + some() + ";");
+        }
+        return s.toString();
+    }
+
+    private String statement() {
+        switch (random.nextInt(8)) {
+            case 0:
+            case 1:
+                return "box " + pick(NAMES) + " at " + random.nextInt(6) + " " + random.nextInt(6) + " way "
+                        + random.nextInt(5);
+            case 2:
+                return "eyes " + pick(NAMES) + " apart " + random.nextInt(4) + " ahead " + random.nextInt(5);
+            case 3:
+                return "bias " + pick(NAMES) + " " + random.nextInt(11);
+            case 4:
+                return "steers " + nested(false);
+            case 5:
+                return "goes " + nested(true);
+            case 6:
+                return "grey " + random.nextInt(6) + " " + random.nextInt(6) + " " + random.nextInt(11);
+            default:
+                return pick("lamp 3", "lamp 10", "power 999", "power 1000", "cat 100", "cat 101", "lamp 0", "cat 5");
+        }
+    }
+
+    /** Six to nine that are open at once, then closed. */
+    private String nested(boolean test) {
+        StringBuilder open = new StringBuilder();
+        StringBuilder close = new StringBuilder();
+        boolean inTest = test;
+        for (int k = 5 + random.nextInt(4); k > 0; k--) {
+            String next = inTest ? pick("not ", "[", "(", "(") : pick("(", "min(1,", "if(", "max(mid,");
+            open.append(next);
+            if (next.equals("[")) {
+                close.insert(0, "]");
+            } else if (next.equals("if(")) {
+                close.insert(0, ",1,2)");
+                inTest = true;
+            } else if (!next.equals("not ")) {
+                close.insert(0, inTest ? ")<3" : ")");
+                inTest = false;
+            }
+        }
+        return open + (inTest ? "1=2" : "left") + close;
     }
 
     private String heap() {
