@@ -174,6 +174,9 @@ public final class AheadTest {
         Check.due("turned away", x.found(2), 4);
         x.shine(5);
         Check.due("none is black", x.found(1), -1);
+        BlackLine side = Check.with("floor 5 by 5;grey 1 2 9;grey 4 4 9;box a at 2 2 way 0;box b at 3 4 way 0;");
+        Check.due("a turn left, one on", side.found(0), 2);
+        Check.due("a turn right, one on", side.found(1), 2);
         BlackLine shut = Check.with("floor 3 by 3;grey 2 2 9;box a at 0 0 way 0;box b at 1 0 way 0;box c at 0 1 way 0;power 0;");
         Check.due("shut in", shut.found(0), -1);
         Check.due("power is not asked for", shut.found(1), 5);
@@ -193,6 +196,10 @@ public final class AheadTest {
         Check.due("n -1", y.spaced(-1), -1);
         BlackLine wait = Check.with("floor 9 by 9;box a at 8 8 way 0;box b at 0 0 way 0;goes step<5;");
         Check.due("b, at the wall, waits until goes no more", wait.spaced(80), 5);
+        BlackLine nine = Check.with("floor 9 by 9;box a at 8 8 way 3;bias a 8;box b at 0 0 way 0;goes step<9;");
+        Check.due("until 9", nine.spaced(80), 9);
+        BlackLine ten = Check.with("floor 9 by 9;box a at 8 8 way 3;bias a 8;box b at 0 0 way 0;goes step<10;");
+        Check.due("9 is not enough", ten.spaced(80), -1);
         BlackLine third = Check.with("floor 9 by 9;box a at 8 8 way 0;box b at 7 8 way 0;box c at 0 0 way 0;goes step<7;");
         Check.due("the third waits twice as long", third.spaced(80), 4);
     }

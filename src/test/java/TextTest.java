@@ -215,6 +215,8 @@ public final class TextTest {
         Check.dueFault(FLOOR + "power 1000;", 4, 19);
         Check.dueFault(FLOOR + "lamp 10;", 4, 18);
         Check.dueFault(FLOOR + "cat 101;", 4, 17);
+        Check.due("least numbers", Check.read(new BlackLine(), box
+                + "eyes amy apart 0 ahead 0;bias amy 0;power 0;lamp 0;cat 0;grey 0 0 0;steers 0;"), 9);
         Check.due("greatest numbers", Check.read(new BlackLine(), box
                 + "eyes amy apart 2 ahead 3;bias amy 9;power 999;lamp 9;cat 100;grey 2 3 9;steers 9999;"), 9);
     }

@@ -25,8 +25,10 @@ public final class TracksTest {
         Check.due("four bytes", tell(x, 1, 3, 2, 0), -1);
         Check.due("sixteen rows", tell(x, new int[48]), 16);
         Check.due("seventeen rows", tell(x, new int[51]), -1);
+        Check.due("the second has 41 steps", tell(x, 0, 0, 0, 41, 0, 0), -1);
+        Check.due("the second has 40 steps", tell(x, 0, 0, 0, 40, 3, 0), 2);
         Check.due("the last row is bad", tell(x, 0, 0, 0, 0, 0, 200), -1);
-        Check.due("refused", x.status(5), 8);
+        Check.due("refused", x.status(5), 9);
         Check.due("no floor", tell(new BlackLine(), 0, 0, 0), -1);
         x.feed(0, 0, 0, 0, 0);
         x.track();
