@@ -227,6 +227,12 @@ public final class TextTest {
         Check.dueFault(FLOOR + "goes not not not not not not not not all;", 5, 46);
         Check.dueFault(FLOOR + "goes not [ not ( if ( not [ min ( 1,2)", 5, 45);
         Check.dueFault(FLOOR + "steers (((((((min((", 5, 30);
+        String[] heads = {"min(", "min(1,", "max(1,", "if(", "if(all,", "if(all,1,", "(1+", "(1*"};
+        for (String head : heads) {
+            String text = FLOOR + "steers 1+(1*3)-" + head;
+            Check.dueFault(text + "(((((((", 5, text.length() + 6);
+            Check.dueFault(text + "((((((", 1, text.length() + 6);
+        }
         Check.dueFault(FLOOR + "steers (((((((1(", 1, 28);
         Check.dueFault(FLOOR + "goes not not not not not not not (1)<2;", 5, 46);
     }
