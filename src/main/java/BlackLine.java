@@ -768,14 +768,15 @@ public final class BlackLine {
             plan.clear();
             tokens.open();
             int made = 0;
-            while (made < MOST_STATEMENTS && tokens.kind != Tokens.END) {
+            // The floor must be told, so a STATEMENT is asked for even of a text that has none.
+            do {
                 readStatement(made == 0);
                 made++;
                 if (made == MOST_STATEMENTS && tokens.isMark(';')) {
                     tokens.refuseMore();
                 }
                 tokens.takeMark(';');
-            }
+            } while (made < MOST_STATEMENTS && tokens.kind != Tokens.END);
             return made;
         }
 

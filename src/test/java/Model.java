@@ -292,7 +292,7 @@ final class Model {
                 while (at(i) == 10 || at(i) == 32) {
                     i++;
                 }
-                if (i >= t.size()) {
+                if (i >= t.size() && k.statements > 0) {
                     return k;
                 }
                 if (k.statements == 80) {

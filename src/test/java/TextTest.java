@@ -66,8 +66,6 @@ public final class TextTest {
         Check.due("blanks", Check.read(new BlackLine(), " \n floor\n2\n by 9\n;\n "), 1);
         Check.due("few blanks", Check.read(new BlackLine(),
                 FLOOR + "steers left+right*(mid-lost);goes not[left<1]and all or 1=1;"), 3);
-        Check.due("no text", Check.read(new BlackLine(), ""), 0);
-        Check.due("blanks alone", Check.read(new BlackLine(), " \n"), 0);
         Check.due("80 statements", Check.read(new BlackLine(), FLOOR + "lamp 1;".repeat(79) + " \n"), 80);
         Check.due("leading zeros", Check.read(new BlackLine(), "floor 0003 by 004;"), 1);
         Check.due("names like own words", Check.read(new BlackLine(),
@@ -134,15 +132,23 @@ public final class TextTest {
         Check.due("acts stay", x.has(9), 1);
         Check.due("tracks stay", x.wheel(0, 0), 0);
         Check.due("place stays", x.box(0, 0), 2);
+        Check.due("no text", x.kitchen(), -1);
+        Check.due("its fault", x.fault(0), 1);
+        Check.due("its place", x.fault(1), 0);
+        Check.due("columns stay, too", x.has(0), 4);
+        Check.due("boxes stay, too", x.has(2), 1);
         x.undo();
         Check.due("goes stays", x.later(0, 9, 0), 2);
-        Check.due("refused", x.status(1), 1);
+        Check.due("refused", x.status(1), 2);
         Check.due("a good one", Check.read(x, FLOOR), 1);
         Check.due("fault(0) behind it", x.fault(0), 0);
         Check.due("fault(1) behind it", x.fault(1), -1);
     }
 
     private static void faultsOfGrammar() {
+        Check.dueFault("", 1, 0);
+        Check.dueFault(" \n", 1, 2);
+        Check.dueFault(";", 1, 0);
         Check.dueFault("grey 0 0 1;", 1, 0);
         Check.dueFault("floor", 1, 5);
         Check.dueFault("floor  ", 1, 7);
