@@ -5,15 +5,21 @@ import java.util.Arrays;
 final class Check {
     private static int made = 0;
     private static int wrong = 0;
+    private static String about = "";
 
     private Check() {
+    }
+
+    /** What stands ahead of each wrong answer told from now on. */
+    static void about(String label) {
+        about = label;
     }
 
     static void due(String what, long got, long want) {
         made++;
         if (got != want) {
             wrong++;
-            System.out.println(what + " answered " + got + ", due is " + want);
+            System.out.println(about + what + " answered " + got + ", due is " + want);
         }
     }
 
@@ -67,6 +73,50 @@ final class Check {
             due("fault " + line.fault(0) + " at " + line.fault(1) + " in " + text, statements, 0);
         }
         return line;
+    }
+
+    /** STEPS go by until so many have gone by since the KITCHEN began. */
+    static void toStep(BlackLine line, int step) {
+        while (line.has(4) + 100 <= step && line.steps(100) >= 0) {
+            continue;
+        }
+        if (line.has(4) < step) {
+            line.steps(step - line.has(4));
+        }
+        due("STEP", line.has(4), step);
+    }
+
+    /** A new object with this KITCHEN, so many STEPS later. */
+    static BlackLine atStep(String text, int step) {
+        BlackLine line = with(text);
+        toStep(line, step);
+        return line;
+    }
+
+    static int tellTracks(BlackLine line, int... bytes) {
+        feedBytes(line, bytes);
+        return line.track();
+    }
+
+    static boolean takeImage(BlackLine line, int... bytes) {
+        feedBytes(line, bytes);
+        return line.on();
+    }
+
+    /** The last byte is set as the document tells the last byte of an IMAGE. */
+    static int[] closedImage(int... bytes) {
+        int c = 179;
+        for (int k = 0; k < bytes.length - 1; k++) {
+            c = (5 * c + bytes[k]) % 251;
+        }
+        bytes[bytes.length - 1] = c;
+        return bytes;
+    }
+
+    static void dueBox(String what, BlackLine line, int box, int... due) {
+        for (int k = 0; k < due.length; k++) {
+            due(what + ", box(" + box + ", " + k + ")", line.box(box, k), due[k]);
+        }
     }
 
     static void dueFault(String text, int kind, int place) {

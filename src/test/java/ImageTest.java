@@ -14,24 +14,10 @@ public final class ImageTest {
         Check.finish();
     }
 
-    private static int[] closed(int... bytes) {
-        int c = 179;
-        for (int k = 0; k < bytes.length - 1; k++) {
-            c = (5 * c + bytes[k]) % 251;
-        }
-        bytes[bytes.length - 1] = c;
-        return bytes;
-    }
-
-    private static boolean take(BlackLine x, int... bytes) {
-        Check.feedBytes(x, bytes);
-        return x.on();
-    }
-
     private static int[] changed(int at, int value) {
         int[] bytes = FIRST.clone();
         bytes[at] = value;
-        return closed(bytes);
+        return Check.closedImage(bytes);
     }
 
     private static void withoutFloor() {
@@ -43,15 +29,15 @@ public final class ImageTest {
             Check.due("octet " + k, x.octet(k), due[k]);
         }
         Check.due("octet -1", x.octet(-1), -1);
-        Check.due("taken", take(x, closed(3, 231, 9, 0)), true);
+        Check.due("taken", Check.takeImage(x, Check.closedImage(3, 231, 9, 0)), true);
         Check.due("step", x.has(4), 999);
         Check.due("lamp", x.has(5), 9);
-        Check.due("nothing", take(x), false);
+        Check.due("nothing", Check.takeImage(x), false);
     }
 
     private static void written() {
         BlackLine x = Check.with(TEXT);
-        int[] due = closed(FIRST.clone());
+        int[] due = Check.closedImage(FIRST.clone());
         Check.due("bytes", x.image(), 20);
         for (int k = 0; k < 20; k++) {
             Check.due("octet " + k, x.octet(k), due[k]);
@@ -61,7 +47,7 @@ public final class ImageTest {
         x.put(0, 4, 3);
         Check.due("of the latest image()", x.octet(1), 0);
         x.image();
-        int[] later = closed(0, 3, 1, 4, 3, 2, 1, 41, 3, 0, 3, 4, 1, 1, 1, 41, 3, 0, 3, 0);
+        int[] later = Check.closedImage(0, 3, 1, 4, 3, 2, 1, 41, 3, 0, 3, 4, 1, 1, 1, 41, 3, 0, 3, 0);
         for (int k = 0; k < 20; k++) {
             Check.due("later, octet " + k, x.octet(k), later[k]);
         }
@@ -75,8 +61,8 @@ public final class ImageTest {
         x.seed(9);
         Check.feedBytes(x, 0, 4, 2);
         x.track();
-        int[] bytes = closed(2, 7, 6, 4, 2, 3, 3, 231, 99, 9, 215, 0, 1, 1, 0, 0, 5, 1, 0, 0);
-        Check.due("taken", take(x, bytes), true);
+        int[] bytes = Check.closedImage(2, 7, 6, 4, 2, 3, 3, 231, 99, 9, 215, 0, 1, 1, 0, 0, 5, 1, 0, 0);
+        Check.due("taken", Check.takeImage(x, bytes), true);
         Check.due("step", x.has(4), 519);
         Check.due("lamp", x.has(5), 6);
         int[][] due = {{4, 2, 3, 999, 99, 1, 1, 0}, {0, 1, 1, 0, 5, 1, 1, 2}};
@@ -94,7 +80,7 @@ public final class ImageTest {
         for (int k = 0; k < 20; k++) {
             Check.due("written again, octet " + k, x.octet(k), bytes[k]);
         }
-        Check.due("places changed about", take(x, closed(0, 0, 0, 0, 1, 0, 0, 1, 0, 0, 0, 4, 2, 0, 0, 1, 0, 0, 0, 0)), true);
+        Check.due("places changed about", Check.takeImage(x, Check.closedImage(0, 0, 0, 0, 1, 0, 0, 1, 0, 0, 0, 4, 2, 0, 0, 1, 0, 0, 0, 0)), true);
         Check.due("a", x.cell(0, 1, 2), 0);
         Check.due("b", x.cell(4, 2, 2), 1);
     }
@@ -102,17 +88,17 @@ public final class ImageTest {
     private static void limits() {
         int[][] greatest = {{2, 9, 10}, {3, 4, 5}, {4, 2, 4}, {5, 3, 4}, {8, 99, 100}, {16, 99, 100}};
         for (int[] row : greatest) {
-            Check.due("byte " + row[0] + " is " + row[1], take(Check.with(TEXT), changed(row[0], row[1])), true);
-            Check.due("byte " + row[0] + " is " + row[2], take(Check.with(TEXT), changed(row[0], row[2])), false);
+            Check.due("byte " + row[0] + " is " + row[1], Check.takeImage(Check.with(TEXT), changed(row[0], row[1])), true);
+            Check.due("byte " + row[0] + " is " + row[2], Check.takeImage(Check.with(TEXT), changed(row[0], row[2])), false);
         }
         int[][] pairs = {{0, 3, 231}, {6, 3, 231}, {9, 9, 215}, {17, 9, 215}};
         for (int[] row : pairs) {
             int[] bytes = FIRST.clone();
             bytes[row[0]] = row[1];
             bytes[row[0] + 1] = row[2];
-            Check.due("pair " + row[0] + " at most", take(Check.with(TEXT), closed(bytes)), true);
+            Check.due("pair " + row[0] + " at most", Check.takeImage(Check.with(TEXT), Check.closedImage(bytes)), true);
             bytes[row[0] + 1]++;
-            Check.due("pair " + row[0] + " above", take(Check.with(TEXT), closed(bytes)), false);
+            Check.due("pair " + row[0] + " above", Check.takeImage(Check.with(TEXT), Check.closedImage(bytes)), false);
         }
     }
 
@@ -124,16 +110,16 @@ public final class ImageTest {
         for (int k = 0; k < 20; k++) {
             before[k] = x.octet(k);
         }
-        int[] wrongEnd = closed(FIRST.clone());
+        int[] wrongEnd = Check.closedImage(FIRST.clone());
         wrongEnd[19]++;
-        Check.due("its last byte", take(x, wrongEnd), false);
-        Check.due("too short", take(x, closed(new int[12])), false);
-        Check.due("too long", take(x, closed(java.util.Arrays.copyOf(FIRST, 21))), false);
+        Check.due("its last byte", Check.takeImage(x, wrongEnd), false);
+        Check.due("too short", Check.takeImage(x, Check.closedImage(new int[12])), false);
+        Check.due("too long", Check.takeImage(x, Check.closedImage(java.util.Arrays.copyOf(FIRST, 21))), false);
         int[] onOne = FIRST.clone();
         onOne[11] = 1;
         onOne[12] = 0;
-        Check.due("two on one cell", take(x, closed(onOne)), false);
-        Check.due("the last box alone is bad", take(x, changed(13, 7)), false);
+        Check.due("two on one cell", Check.takeImage(x, Check.closedImage(onOne)), false);
+        Check.due("the last box alone is bad", Check.takeImage(x, changed(13, 7)), false);
         Check.due("refused", x.status(5), 5);
         Check.due("acts stay", x.has(9), 1);
         x.image();
@@ -147,13 +133,13 @@ public final class ImageTest {
 
     private static void cellsGoneTo() {
         BlackLine x = Check.with("floor 9 by 9;box a at 4 4 way 0;bias a 7;");
-        Check.due("one short of all round", take(x, closed(0, 0, 0, 4, 4, 0, 1, 0, 0, 9, 215, 0)), true);
+        Check.due("one short of all round", Check.takeImage(x, Check.closedImage(0, 0, 0, 4, 4, 0, 1, 0, 0, 9, 215, 0)), true);
         x.steps(1);
         Check.due("the 2520th is a 7th", x.box(0, 2), 1);
         x.image();
         Check.due("0 again, higher", x.octet(9), 0);
         Check.due("0 again, lower", x.octet(10), 0);
-        Check.due("six cells on", take(x, closed(0, 0, 0, 4, 4, 0, 1, 0, 0, 0, 5, 0)), true);
+        Check.due("six cells on", Check.takeImage(x, Check.closedImage(0, 0, 0, 4, 4, 0, 1, 0, 0, 0, 5, 0)), true);
         x.steps(1);
         Check.due("the sixth turns not", x.box(0, 2), 0);
         x.steps(1);
