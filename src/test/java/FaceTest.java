@@ -85,9 +85,23 @@ public final class FaceTest {
             Matcher m = Pattern.compile(pattern).matcher(code);
             Check.due("there is " + pattern, m.find(), false);
         }
+        Check.due("signs are 1 to 127", text.chars().allMatch(sign -> sign > 0 && sign < 128), true);
+        Check.due("none but the outer class is public", text.split("\\bpublic (final )?class\\b").length, 2);
+        methodsAreShort(text);
         Matcher imports = Pattern.compile("(?m)^import (.*);").matcher(text);
         while (imports.find()) {
             Check.due("import " + imports.group(1), imports.group(1).equals("java.util.Arrays"), true);
         }
+    }
+
+    private static void methodsAreShort(String text) {
+        Matcher method = Pattern.compile("(?ms)^( {4}| {8})[a-z][^\n;=]*\\) \\{\n(.*?)^\\1\\}").matcher(text);
+        int seen = 0;
+        while (method.find()) {
+            seen++;
+            long lines = method.group(2).lines().count();
+            Check.due(method.group().lines().findFirst().orElse("") + " has " + lines + " lines", lines <= 60, true);
+        }
+        Check.due("methods seen", seen > 100, true);
     }
 }
