@@ -24,8 +24,8 @@ public final class GrammarTest {
                 line = new BlackLine();
             }
             Random random = new Random(run);
-            String text = run % 3 == 0 ? new Kitchens(random).any() : walk(random);
-            seen[same(line, text.length() > 400 ? text.substring(0, 400) : text)]++;
+            String text = run % 3 == 0 ? new Kitchens(random).any() : run % 20 == 1 ? late(random) : walk(random);
+            seen[same(line, text.length() > 1600 ? text.substring(0, 1600) : text)]++;
         }
         for (int kind = 0; kind < seen.length && count >= TEXTS; kind++) {
             Check.due("many texts with FAULT " + kind, seen[kind] > count / 200, true);
@@ -69,6 +69,13 @@ public final class GrammarTest {
             text.append(random.nextBoolean() ? " " : "").append(OTHERS[random.nextInt(OTHERS.length)]);
         }
         return text.toString();
+    }
+
+    /** So many STATEMENTS ahead that the last ones may be too many. */
+    private static String late(Random random) {
+        String text = walk(random);
+        int floor = text.indexOf(';') + 1;
+        return text.substring(0, floor) + "cat 1;".repeat(65 + random.nextInt(15)) + text.substring(floor);
     }
 
     private static String between(Random random, String before, String token) {
